@@ -57,6 +57,13 @@ public final class MarksTest {
     private static void about() {
         PigLine x = new PigLine();
         x.mark(1, 7, 8, 9, 10);
+        x.mark(0, 7, 0, 0, 0);
+        x.mark(0, 7, 6, 0, 0);
+        due.is("about 5 needs no call ahead", x.about(0, 1, 5), 1);
+        x.mark(0, 7, 3, 0, 0);
+        x.near(0, 3);
+        due.is("about 5 is never out of date", x.about(0, 1, 5), 0);
+        x.clear(0);
         int[] told = {7, 8, 9, 10, -1, 0};
         for (int what = 0; what < told.length; what++) {
             due.is("about " + what, x.about(1, 0, what), told[what]);
@@ -96,6 +103,9 @@ public final class MarksTest {
         x.mark(0, 101, 1, 0, 0);
         x.mark(0, 0, 2, 0, 0);
         due.is("50 and 1 at first", x.groups(0), 2);
+        x.mark(1, 0, 0, 0, 0);
+        x.mark(1, 0, 2, 0, 0);
+        due.is("two hours are too many at first", x.groups(1), 2);
         for (int[] b : bad) {
             due.is("near " + b[0] + " " + b[1], x.near(b[0], b[1]), -2);
         }
@@ -180,7 +190,17 @@ public final class MarksTest {
         due.is("groups below", x.groups(-1), -2);
         due.is("groups above", x.groups(2), -2);
         due.is("run 1 has none", x.groups(1), 0);
+        nothings();
         fullChain();
+    }
+
+    private static void nothings() {
+        PigLine x = new PigLine();
+        x.mark(0, 0, 0, 0, 0);
+        int[] facts = {0, 1, 0, 0, 0};
+        for (int what = 0; what < facts.length; what++) {
+            due.is("a mark of nothing " + what, x.group(0, 0, what), facts[what]);
+        }
     }
 
     /** 40 marks, each near to the next by way only, told in an order that jumps about. */

@@ -70,6 +70,12 @@ public final class PairsTest {
         due.is("growth of a mark of run 1", x.growth(1, 0), -2);
         due.is("growth what below", x.growth(0, -1), -2);
         due.is("growth what above", x.growth(0, 3), -2);
+        due.is("it has a twin", x.twin(0), 0);
+        x.wipe();
+        due.is("no book, no twin", x.twin(0), -1);
+        due.is("no book, no growth", x.growth(0, 0), -4);
+        x.joint(1000);
+        x.joint(2000);
         x.clear(1);
         due.is("BAD ahead of NOT", x.growth(0, 3), -2);
         due.is("NOT", x.growth(0, 0), -4);
@@ -222,6 +228,12 @@ public final class PairsTest {
         facts("all of it", x, 100, 100, 0);
         x.tool(1, 50, 100);
         facts("the greatest tool", x, 0, 100, 0);
+        x = line();
+        x.mark(0, 100, 0, 20, 0);
+        x.mark(1, 0, 0, 99, 0);
+        x.mark(1, 150, 0, 50, 0);
+        due.is("its twin is a number that run 0 has not", x.twin(0), 1);
+        facts("the second of run 1", x, 20, 40, 3);
     }
 
     private static void last() {

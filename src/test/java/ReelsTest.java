@@ -55,11 +55,13 @@ public final class ReelsTest {
         due.is("150 items", x.reel(7, 2, 150), 150);
         due.is("last item is 0", x.get(7, 2, 149), 0);
         due.is("put", x.put(7, 2, 149, 5), 1);
+        due.is("put the first", x.put(7, 2, 0, 5), 1);
         due.is("refused reel leaves it", x.reel(7, 2, -1), -15);
         due.is("refused reel leaves it too", x.reel(7, 2, 151), -2);
         due.is("item stays", x.get(7, 2, 149), 5);
         due.is("again", x.reel(7, 2, 150), 150);
         due.is("a new row is 0", x.get(7, 2, 149), 0);
+        due.is("a new row is 0 from the first on", x.get(7, 2, 0), 0);
         due.is("another form", x.reel(7, 0, 3), 3);
         due.is("old form is gone", x.put(7, 2, 0, 1), -13);
         due.is("old size is gone", x.put(7, 0, 3, 1), -12);
@@ -165,6 +167,11 @@ public final class ReelsTest {
         due.is("copy", x.copy(0, 1, 1, 2, 2), 1);
         same(x, 1, 0, 0, 11, 12);
         same(x, 0, 10, 11, 12, 13, 14);
+        due.is("copy all of it", x.copy(1, 0, 0, 0, 4), 1);
+        same(x, 0, 0, 0, 11, 12, 14);
+        for (int i = 0; i < 5; i++) {
+            x.put(0, 1, i, 10 + i);
+        }
         due.is("copy onto itself, onward", x.copy(0, 0, 0, 1, 4), 1);
         same(x, 0, 10, 10, 11, 12, 13);
         due.is("copy onto itself, backward", x.copy(0, 2, 0, 0, 3), 1);

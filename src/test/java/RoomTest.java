@@ -49,7 +49,7 @@ public final class RoomTest {
     }
 
     private static void calls(PigLine x) {
-        for (int i = 0; i < 40; i++) {
+        for (int i = 0; i < 16; i++) {
             x.reel(7, 0, 150);
             x.lose(7);
             x.run(0, 3);

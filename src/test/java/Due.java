@@ -4,24 +4,29 @@ final class Due {
 
     private int checks;
     private int wrong;
+    private int sentences;
+    private int checksBeforeSentence;
+    private String sentence = "";
+
+    /** What is checked from here on is what this sentence of the document says. */
+    void sentence(String told) {
+        closeSentence();
+        sentence = told + " | ";
+        sentences++;
+        checksBeforeSentence = checks;
+    }
 
     void is(String call, long got, long want) {
         checks++;
         if (got != want) {
-            wrong++;
-            if (wrong <= SHOWN_AT_MOST) {
-                System.out.println(call + " answered " + got + ", due is " + want);
-            }
+            tell(call + " answered " + got + ", due is " + want);
         }
     }
 
     void holds(String what, boolean so) {
         checks++;
         if (!so) {
-            wrong++;
-            if (wrong <= SHOWN_AT_MOST) {
-                System.out.println("does not hold: " + what);
-            }
+            tell("does not hold: " + what);
         }
     }
 
@@ -30,9 +35,23 @@ final class Due {
     }
 
     void end() {
-        System.out.println(checks + " checks, " + wrong + " wrong");
+        closeSentence();
+        System.out.println(checks + " checks, " + (sentences > 0 ? sentences + " sentences, " : "") + wrong + " wrong");
         if (wrong != 0 || checks == 0) {
             System.exit(1);
+        }
+    }
+
+    private void tell(String line) {
+        wrong++;
+        if (wrong <= SHOWN_AT_MOST) {
+            System.out.println(sentence + line);
+        }
+    }
+
+    private void closeSentence() {
+        if (sentences > 0 && checks == checksBeforeSentence) {
+            tell("nothing was checked");
         }
     }
 }

@@ -9,6 +9,8 @@ final class Model {
     static final int NONE = -1, BAD = -2, FULL = -3, NOT = -4;
 
     private final Object[] reels = new Object[8];
+    @SuppressWarnings("unchecked")
+    private final List<int[]>[] kept = new List[2];
     private final List<Integer> book = new ArrayList<>();
     private final List<List<int[]>> marks = List.of(new ArrayList<>(), new ArrayList<>());
     private final List<int[]> works = new ArrayList<>();
@@ -16,6 +18,10 @@ final class Model {
     private boolean pressed;
     private int missed = 100, extra = 100, gap = 50, turn = 1, alone = 400;
     private int span = 5, tool = 5, limit = 80, k = 4, setting = 500, finding;
+
+    private void changed(int reel) {
+        kept[reel / 4] = null;
+    }
 
     private int found(int number) {
         finding = number;
@@ -41,6 +47,7 @@ final class Model {
     int reel(int r, int form, int n) {
         if (!in(r, 0, 7) || !in(form, 0, 2) || n > 150) return BAD;
         if (n < 0) return found(5);
+        changed(r);
         reels[r] = form == 0 ? new byte[n] : form == 1 ? new short[n] : new int[n];
         return n;
     }
@@ -49,6 +56,7 @@ final class Model {
         if (!in(r, 0, 7)) return BAD;
         if (reels[r] == null) return found(1);
         int n = sizeOf(reels[r]);
+        changed(r);
         reels[r] = null;
         return n;
     }
@@ -63,6 +71,7 @@ final class Model {
         if (!in(r, 0, 7) || !in(form, 0, 2)) return BAD;
         int fault = fault(r, form, i);
         if (fault != 0) return found(fault);
+        changed(r);
         if (reels[r] instanceof byte[] row) row[i] = (byte) v;
         if (reels[r] instanceof short[] row) row[i] = (short) v;
         if (reels[r] instanceof int[] row) row[i] = v;
@@ -83,6 +92,7 @@ final class Model {
         if (formOf(reels[r]) != formOf(reels[q])) return found(4);
         try {
             System.arraycopy(reels[r], i, reels[q], j, n);
+            changed(q);
             return 1;
         } catch (IndexOutOfBoundsException outside) {
             return found(2);
@@ -121,7 +131,13 @@ final class Model {
         return way;
     }
 
+    /** Kept until a reel changes, for speed alone. */
     private List<int[]> feltJoints(int r) {
+        if (kept[r] == null) kept[r] = feltAnew(r);
+        return kept[r];
+    }
+
+    private List<int[]> feltAnew(int r) {
         List<int[]> joints = new ArrayList<>();
         int from = 0, way = 0;
         for (int t = 0; t < ticks(r); t++) {

@@ -1,4 +1,3 @@
-import java.lang.reflect.Method;
 import java.util.ArrayList;
 import java.util.Arrays;
 import java.util.List;
@@ -125,20 +124,7 @@ public final class StormTest {
 
     private int call(int storm, PigLine line, Model model, String name, int[] args) throws Exception {
         String told = "storm " + storm + ": " + name + Arrays.toString(args);
-        due.is(told, answer(line, name, args), answer(model, name, args));
+        due.is(told, Calls.answer(line, name, args), Calls.answer(model, name, args));
         return 1;
-    }
-
-    private static long answer(Object on, String name, int[] args) throws Exception {
-        for (Method method : on.getClass().getDeclaredMethods()) {
-            if (method.getName().equals(name) && method.getParameterCount() == args.length) {
-                Object[] given = new Object[args.length];
-                for (int i = 0; i < args.length; i++) {
-                    given[i] = method.getParameterTypes()[i] == boolean.class ? (Object) (args[i] == 1) : args[i];
-                }
-                return ((Number) method.invoke(on, given)).longValue();
-            }
-        }
-        throw new IllegalStateException("no method " + name);
     }
 }

@@ -19,6 +19,9 @@ public final class PairEdgesTest {
         lesserNumber();
         firstInWhichTheyPart();
         leftOutComesBehind();
+        oneToOne();
+        twinInItsJoint();
+        twinWithAGreaterNumber();
         twinNone();
         twinRefusals();
         toolBounds();
@@ -289,6 +292,48 @@ public final class PairEdgesTest {
         x.alone(1);
         // 1 for a pair is less than 2 for both alone.
         twins("pairs that cost less", x, 1, 0);
+    }
+
+    private static void oneToOne() {
+        due.sentence("Terms: PAIRS of MARKS: no MARK is in two of them");
+        PigLine x = Lines.oneJoint();
+        x.alone(10);
+        // For the second a pair would cost as much as to be left out, but the first has taken it.
+        first(x, 100, 110);
+        second(x, 100);
+        due.is("one pair, one alone", x.pairing(0), 10);
+        twins("the second is left out", x, 0, -1);
+        x.clear(1);
+        second(x, 100, 120);
+        due.is("two pairs", x.pairing(0), 10);
+        twins("the second takes the other", x, 0, 1);
+    }
+
+    private static void twinInItsJoint() {
+        due.sentence("Promise 23: in the JOINT of THE BOOK with which its FELT JOINT is paired");
+        PigLine x = Lines.book(1000, 2000);
+        Lines.feel(x, 0, 1000, 2000);
+        Lines.feel(x, 1, 50, 1000, 2000);
+        x.mark(0, 999, 0, 0, 0);
+        x.mark(0, 1000, 0, 0, 0);
+        x.mark(0, 1049, 0, 0, 0);
+        x.mark(1, 1050, 0, 0, 0);
+        x.mark(1, 1049, 0, 0, 0);
+        x.mark(1, 49, 0, 0, 0);
+        x.mark(1, 1099, 0, 0, 0);
+        twins("each in its own", x, 1, 0, 3);
+        due.is("joint 0", x.pairing(0), 0);
+        due.is("joint 1", x.pairing(1), 0);
+    }
+
+    private static void twinWithAGreaterNumber() {
+        due.sentence("Promise 25: a twin with a number that RUN 0 has not");
+        PigLine x = Lines.oneJoint();
+        x.mark(0, 5, 0, 20, 0);
+        x.mark(1, 0, 0, 99, 0);
+        x.mark(1, 7005, 0, 50, 0);
+        twins("the second of RUN 1", x, 1);
+        facts("its growth", x, 20, 40, 3);
     }
 
     private static void twinNone() {

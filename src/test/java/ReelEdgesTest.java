@@ -147,6 +147,10 @@ public final class ReelEdgesTest {
         due.is("the least int", x.reel(7, 2, LEAST), -15);
         due.is("0 is not below", x.reel(0, 0, 0), 0);
         due.is("7 is LOST still", x.lose(7), -11);
+        Lines.fill(x, 3, 1, 8, 9);
+        due.is("-1 for a row that is there", x.reel(3, 0, -1), -15);
+        items(x, 3, 1, 8, 9);
+        due.is("it has its items still", x.lose(3), 2);
     }
 
     private static void badAheadOfSize() {

@@ -28,7 +28,9 @@ public final class RunEdgesTest {
         jointsFromWelds();
         jointsOfNoLength();
         sixtyAtMost();
-        refusals();
+        runRefusals();
+        wayRefusals();
+        feltRefusals();
         due.end();
     }
 
@@ -252,6 +254,9 @@ public final class RunEdgesTest {
         ways(x, 0, 0, 0, 6, 12);
         due.is("blind ones", x.run(0, 1), 3);
         due.is("of the other run", x.run(1, 1), 0);
+        Lines.fillAlike(x, 4, BYTES, 150, -1);
+        due.is("all 150 are blind", x.run(1, 1), 150);
+        due.is("no way at all", x.run(1, 2), 0);
     }
 
     private static void waysTogether() {
@@ -370,22 +375,37 @@ public final class RunEdgesTest {
         }
     }
 
-    private static void refusals() {
+    private static PigLine threeJoints() {
         PigLine x = new PigLine();
         Lines.feel(x, 0, 4, 5, 6);
+        return x;
+    }
+
+    private static void runRefusals() {
         due.sentence("Promise 7: BAD");
+        PigLine x = threeJoints();
         int[] noWhat = {-1, 4, LEAST, MOST};
         for (int what : noWhat) {
             due.is("run what " + what, x.run(0, what), -2);
         }
+        due.is("no finding", x.count(6), 0);
+    }
+
+    private static void wayRefusals() {
         due.sentence("Promise 8: BAD");
+        PigLine x = threeJoints();
         int[] noTick = {-1, 3, 150, LEAST, MOST};
         for (int tick : noTick) {
             due.is("way " + tick, x.way(0, tick), -2);
         }
         due.is("the first", x.way(0, 0), 4);
         due.is("the last", x.way(0, 2), 15);
+        due.is("no finding", x.count(6), 0);
+    }
+
+    private static void feltRefusals() {
         due.sentence("Promise 9: BAD");
+        PigLine x = threeJoints();
         int[] noJoint = {-1, 3, 60, LEAST, MOST};
         for (int j : noJoint) {
             due.is("felt " + j + " begins", x.felt(0, j, 0), -2);
@@ -395,7 +415,8 @@ public final class RunEdgesTest {
         for (int what : noPart) {
             due.is("felt what " + what, x.felt(0, 0, what), -2);
         }
-        due.is("the last", x.felt(0, 2, 1), 6);
-        due.is("none of all is a finding", x.count(6), 0);
+        due.is("the last begins", x.felt(0, 2, 0), 9);
+        due.is("the last length", x.felt(0, 2, 1), 6);
+        due.is("no finding", x.count(6), 0);
     }
 }

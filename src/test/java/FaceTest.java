@@ -37,7 +37,10 @@ public final class FaceTest {
             int how = inner.getModifiers();
             due.holds(inner + " is static and not public",
                     Modifier.isStatic(how) && !Modifier.isPublic(how) && !Modifier.isProtected(how));
+            due.is(inner + " has no class inside it", inner.getDeclaredClasses().length, 0);
+            fewFields(due, inner);
         }
+        fewFields(due, PigLine.class);
         due.end();
     }
 
@@ -55,6 +58,7 @@ public final class FaceTest {
         }
         due.holds("public methods are those of the document", seen.equals(new TreeSet<>(Arrays.asList(METHODS))));
         for (Method method : PigLine.class.getDeclaredMethods()) {
+            due.holds(method + " takes seven at most", method.getParameterCount() <= 7);
             due.holds(method + " has a name of its own",
                     Modifier.isPublic(method.getModifiers()) || !faceNames.contains(method.getName()));
         }
@@ -64,6 +68,16 @@ public final class FaceTest {
                 due.holds(method + " takes seven at most", method.getParameterCount() <= 7);
             }
         }
+    }
+
+    private static void fewFields(Due due, Class<?> type) {
+        int beside = 0;
+        for (Field field : type.getDeclaredFields()) {
+            boolean isStatic = Modifier.isStatic(field.getModifiers());
+            beside += isStatic ? 0 : 1;
+            due.holds(field + ": a static one is final", !isStatic || Modifier.isFinal(field.getModifiers()));
+        }
+        due.holds(type + " has some twenty fields beside its constants", beside <= 20);
     }
 
     private static String told(Method method) {
@@ -79,7 +93,6 @@ public final class FaceTest {
         Set<String> open = new TreeSet<>();
         for (Field field : PigLine.class.getDeclaredFields()) {
             int how = field.getModifiers();
-            due.holds(field + ": a static one is final", !Modifier.isStatic(how) || Modifier.isFinal(how));
             if (!Modifier.isPrivate(how)) {
                 open.add(field.getName());
                 due.holds(field + " is a public constant",

@@ -307,6 +307,15 @@ public final class PairEdgesTest {
         second(x, 100, 120);
         due.is("two pairs", x.pairing(0), 10);
         twins("the second takes the other", x, 0, 1);
+        // The same with each place among the five of RUN 1 as the one that both want.
+        for (int wanted = 0; wanted < 5; wanted++) {
+            x.clear(1);
+            for (int k = 0; k < 5; k++) {
+                second(x, k == wanted ? 100 : 900);
+            }
+            due.is("one pair, five alone", x.pairing(0), 50);
+            twins("place " + wanted + " is taken once", x, wanted, -1);
+        }
     }
 
     private static void twinInItsJoint() {
